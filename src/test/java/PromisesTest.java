@@ -129,6 +129,11 @@ public final class PromisesTest {
         due("number for a name", faultOf("land 1 in;"), 5);
         due("number for a head", faultOf("1"), 0);
         due("word that heads nothing", faultOf("lands a in;"), 0);
+        for (String near : "mand sown fun nail".split(" ")) {
+            due(near, faultOf(near + " a in;"), 0);
+        }
+        due("on for in", faultOf("land a on;"), 7);
+        due("if for of", faultOf("land a in;town x if a;"), 17);
         due("8 letters", faultOf("land abcdefgh in;town x of abcdefgh;"), -1);
         due("9 letters", faultOf("land abcdefghi in;"), 5);
         due("letters that a code might take for a name", faultOf("land a in;town x of aaaaaaaaaaaaaaaaaaaaaaaaaaaa;"), 20);
@@ -497,6 +502,9 @@ public final class PromisesTest {
         due("seen twice", x.ways(0), 1);
         x.man(0, 0, 0, 10);
         due("no hour till the end", x.ways(0), 0);
+        x.look(1, 0, 5, 5);
+        x.look(1, 0, 5, 5);
+        due("two at the same hour", x.ways(1), 2);
     }
 
     private static void places() {
@@ -605,6 +613,7 @@ public final class PromisesTest {
         due("fewest, for only staying leaves no stamps", x.toDoubt(1), 3);
         x.look(1, 1, 14, 96);
         due("all of them", x.toDoubt(1), 7);
+        doubtingPapers();
         promise = "21";
         due("no trace gives it", x.away(1), -1);
         due("doubted ones do not count", x.away(0), -1);
@@ -625,6 +634,21 @@ public final class PromisesTest {
         due("like without either", y.away(0), 0);
         y.doubt(0, 0, true);
         due("the one not doubted", y.away(0), 1);
+    }
+
+    private static void doubtingPapers() {
+        StampTales x = mapped(INLAND + "sail x y at 10 for 5 cost 0;");
+        x.paper(0, 1, 3);
+        x.paper(0, 1, 3);
+        due("two of the same hour", x.toDoubt(0), 3);
+        for (int hour = 20; hour < 50; hour += 10) {
+            x.paper(1, 1, hour);
+        }
+        x.paper(1, 0, 12);
+        x.paper(1, 0, 13);
+        due("two while he is under way", x.toDoubt(1), 24);
+        x.look(1, 0, 30, 40);
+        due("and a look", x.toDoubt(1), 7);
     }
 
     private static void meeting() {
@@ -744,6 +768,14 @@ public final class PromisesTest {
         due("too little on day 0", x.barred(0), 200);
         x.man(0, 0, 4, 7);
         due("the night is not over", x.barred(0), 0);
+        x.man(0, 0, 4, 8);
+        due("the night is over at the end", x.barred(0), 200);
+        x.man(0, 0, 3, 8);
+        x.paper(0, 0, 8);
+        due("a paper at the end", x.barred(0), 400);
+        x.man(0, 0, 3, 7);
+        due("a paper behind the end", x.barred(0), 0);
+        x.undo(0);
         tell(x, 0, 1, 1, 22, 0, 49);
         x.man(0, 0, 3, 96);
         due("enough", x.barred(0), 0);
