@@ -114,6 +114,27 @@ public final class PromisesTest {
         due("bytes", x.count(6), 0);
     }
 
+    private static void faultsOfCutTexts() {
+        promise = "4";
+        String text = "land a in;town xy of a plus 12;";
+        // A cut inside a word that is not a name leaves a word that can't stand there; else the text ends too early.
+        int[] want = {0, 0, 0, 0, 4, 5, 6, 7, 7, 9, 10, 10, 10, 10, 14, 15, 16, 17, 18, 18, 20, 21, 22, 23, 23, 23, 23, 27,
+            28, 29, 30, -1};
+        StampTales x = new StampTales();
+        for (int n = text.length(); n >= 0; n--) {
+            feed(x, text);
+            x.end(n);
+            due("cut behind " + n, x.fault(), want[n]);
+        }
+        StringBuilder full = new StringBuilder("land a in;town x of a plus ");
+        while (full.length() < 500) {
+            full.append(full.length() < 499 ? '0' : '7');
+        }
+        due("500 bytes up to a digit", faultOf(full.toString()), 500);
+        full.setCharAt(499, ';');
+        due("500 bytes", faultOf(full.toString()), -1);
+    }
+
     private static void faultsOfLandsAndTowns() {
         promise = "4";
         due("empty", faultOf(""), 0);
@@ -841,6 +862,7 @@ public final class PromisesTest {
     public static void main(String[] args) {
         newObject();
         feedAndEnd();
+        faultsOfCutTexts();
         faultsOfLandsAndTowns();
         faultsOfLinks();
         maps();
