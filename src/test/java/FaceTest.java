@@ -12,7 +12,7 @@ import java.util.regex.Matcher;
 import java.util.regex.Pattern;
 
 /** The public face of the document, and those rules of LANGUAGE.md that a look at the class or its text can tell. */
-public final class FaceTest {
+public final class FaceTest extends Checks {
     private static final String[] FACE = {
         "int feed(int,int,int,int,int)", "boolean end(int)", "int fault()", "int map()", "boolean man(int,int,int,int)",
         "int stamp(int,int,boolean,int,int)", "int paper(int,int,int)", "int look(int,int,int,int)",
@@ -20,13 +20,8 @@ public final class FaceTest {
         "int trace(int,int,int)", "int ways(int)", "int may(int,int)", "int surely(int,int)", "int extreme(int,int)",
         "int tale(int,int)", "int toDoubt(int)", "int away(int)", "int met(int,boolean)", "int leg(int,int)",
         "int forget()", "int barred(int)", "int count(int)"};
-    private static int wrong = 0;
-
     private static void due(String what, boolean is) {
-        if (!is) {
-            wrong++;
-            System.out.println("not as due: " + what);
-        }
+        due(what, is, true);
     }
 
     private static String headOf(Method m) {
@@ -91,9 +86,6 @@ public final class FaceTest {
     public static void main(String[] args) throws java.io.IOException {
         lookAtFace();
         lookAtText();
-        System.out.println("FaceTest: " + wrong + " not as due");
-        if (wrong != 0) {
-            System.exit(1);
-        }
+        report("FaceTest", "");
     }
 }

@@ -9,21 +9,9 @@ import java.util.Set;
  * Promises 2 to 5, 12, 13 and 26: texts are drawn from fixed seeds, most of them spoilt somewhere, and read by a reader
  * of this test's own, which goes by written-out patterns.
  */
-public final class FaultTest {
+public final class FaultTest extends Checks {
     private static final Set<String> KEPT = Set.of("land", "town", "in", "out", "both", "none", "of", "plus", "minus",
         "run", "sail", "at", "for", "cost");
-    private static int wrong = 0;
-    private static int asked = 0;
-
-    private static void due(String call, long got, long want) {
-        asked++;
-        if (got != want) {
-            wrong++;
-            if (wrong < 40) {
-                System.out.println(call + " answered " + got + ", due is " + want);
-            }
-        }
-    }
 
     private record Token(String word, int place) { }
 
@@ -219,19 +207,6 @@ public final class FaultTest {
         return out.toString();
     }
 
-    private static void feed(StampTales x, String text) {
-        x.end(0);
-        for (int i = 0; i < text.length(); i += 20) {
-            int[] five = new int[5];
-            for (int j = 0; j < 20; j++) {
-                int b = i + j < text.length() ? text.charAt(i + j) : 'q';
-                five[j / 4] = five[j / 4] << 8 | b;
-            }
-            due("feed", x.feed(five[0], five[1], five[2], five[3], five[4]), i + 20);
-        }
-        due("end", x.end(text.length()) ? 1 : 0, 1);
-    }
-
     private static void compare(StampTales x, String text, Plain plain) {
         due("lands of " + text, x.count(0), plain.lands.size());
         due("towns of " + text, x.count(1), plain.towns.size());
@@ -267,10 +242,7 @@ public final class FaultTest {
                 compare(x, text, stands);
             }
         }
-        System.out.println("FaultTest: " + seeds + " texts, " + good + " of them maps, " + asked + " answers, " + wrong
-            + " not as due");
-        if (wrong != 0 || good < seeds / 10 || good > seeds * 9 / 10) {
-            System.exit(1);
-        }
+        due("whether some texts are maps, and some are not", good > seeds / 10 && good < seeds * 9 / 10, true);
+        report("FaultTest", seeds + " texts, " + good + " of them maps, ");
     }
 }

@@ -1,54 +1,13 @@
 /** Each promise of the document by hand, in its order: ordinary inputs, the edges that it names, and wrong inputs. */
-public final class PromisesTest {
+public final class PromisesTest extends Checks {
     private static final int[] ODD = {Integer.MIN_VALUE, -100, -2, 97, 98, 500, 501, Integer.MAX_VALUE};
-    private static int wrong = 0;
-    private static int asked = 0;
-    private static String promise = "";
-
-    private static void due(String call, long got, long want) {
-        asked++;
-        if (got != want) {
-            wrong++;
-            System.out.println("promise " + promise + ": " + call + " answered " + got + ", due is " + want);
-        }
-    }
-
-    private static void due(String call, boolean got, boolean want) {
-        due(call, got ? 1 : 0, want ? 1 : 0);
-    }
-
-    private static void feed(StampTales x, String text) {
-        x.end(0);
-        for (int i = 0; i < text.length(); i += 20) {
-            int[] five = new int[5];
-            for (int j = 0; j < 20; j++) {
-                five[j / 4] = five[j / 4] << 8 | (i + j < text.length() ? text.charAt(i + j) : '?');
-            }
-            x.feed(five[0], five[1], five[2], five[3], five[4]);
-        }
-        x.end(text.length());
-    }
-
-    private static StampTales mapped(String text) {
-        StampTales x = new StampTales();
-        feed(x, text);
-        due("fault of " + text, x.fault(), -1);
-        x.map();
-        return x;
-    }
-
-    private static int faultOf(String text) {
-        StampTales x = new StampTales();
-        feed(x, text);
-        return x.fault();
-    }
 
     private static final String TWO = "land a both;land b both;town x of a;town y of b;";
     private static final String THERE_AND_BACK = TWO + "run x y at 9 for 5 cost 7;run y x at 20 for 5 cost 3;";
     private static final String INLAND = "land a both;town x of a;town y of a;";
 
     private static void newObject() {
-        promise = "1";
+        promise("1");
         StampTales x = new StampTales();
         due("NONE", StampTales.NONE, -1);
         for (int what = 0; what < 7; what++) {
@@ -80,7 +39,7 @@ public final class PromisesTest {
     }
 
     private static void feedAndEnd() {
-        promise = "2";
+        promise("2");
         StampTales x = new StampTales();
         for (int i = 1; i <= 25; i++) {
             due("feed " + i, x.feed(0x3b3b3b3b, 0x3b3b3b3b, 0x3b3b3b3b, 0x3b3b3b3b, 0x3b3b3b3b), 20 * i);
@@ -98,7 +57,7 @@ public final class PromisesTest {
         due("fault", x.fault(), 20);
         due("feed", x.feed(0x613bff00, 0x80808080, 0, 0, -1), 40);
         due("fault at a high byte", x.fault(), 22);
-        promise = "3";
+        promise("3");
         due("end 41", x.end(41), false);
         due("end -1", x.end(-1), false);
         due("end least", x.end(Integer.MIN_VALUE), false);
@@ -115,7 +74,7 @@ public final class PromisesTest {
     }
 
     private static void faultsOfCutTexts() {
-        promise = "4";
+        promise("4");
         String text = "land a in;town xy of a plus 12;";
         // A cut inside a word that is not a name leaves a word that can't stand there; else the text ends too early.
         int[] want = {0, 0, 0, 0, 4, 5, 6, 7, 7, 9, 10, 10, 10, 10, 14, 15, 16, 17, 18, 18, 20, 21, 22, 23, 23, 23, 23, 27,
@@ -136,7 +95,7 @@ public final class PromisesTest {
     }
 
     private static void faultsOfLandsAndTowns() {
-        promise = "4";
+        promise("4");
         due("empty", faultOf(""), 0);
         due("blanks alone", faultOf(" \n "), 3);
         due("no town", faultOf("land a in; "), 11);
@@ -188,7 +147,7 @@ public final class PromisesTest {
     }
 
     private static void faultsOfLinks() {
-        promise = "4";
+        promise("4");
         String[] good = {"run x y at 0 for 1 cost 0;", "run x y at 23 for 48 cost 99;", "sail y x at 95 for 1 cost 5;",
             "sail x y at 0 for 48 cost 0;", "run x y at1for1cost1;"};
         for (String link : good) {
@@ -215,7 +174,7 @@ public final class PromisesTest {
     }
 
     private static void maps() {
-        promise = "5";
+        promise("5");
         StampTales x = mapped(THERE_AND_BACK);
         due("bytes", x.count(6), 0);
         due("fault of the empty text", x.fault(), 0);
@@ -256,7 +215,7 @@ public final class PromisesTest {
     }
 
     private static void men() {
-        promise = "6";
+        promise("6");
         StampTales x = mapped(THERE_AND_BACK);
         for (int odd : ODD) {
             due("man " + odd, x.man(odd, 0, 0, 96), false);
@@ -285,7 +244,7 @@ public final class PromisesTest {
     }
 
     private static void traces() {
-        promise = "7";
+        promise("7");
         StampTales x = mapped(THERE_AND_BACK);
         for (int odd : ODD) {
             due("stamp of " + odd, x.stamp(odd, 0, true, 0, 1), -1);
@@ -312,7 +271,7 @@ public final class PromisesTest {
         }
         due("7th stamp", x.stamp(0, 0, true, 0, 0), -1);
         due("stamp of the other", x.stamp(1, 1, false, 5, 5), 0);
-        promise = "8";
+        promise("8");
         due("paper", x.paper(0, 1, 96), 6);
         due("paper at 97", x.paper(0, 0, 97), -1);
         due("paper at -1", x.paper(0, 0, -1), -1);
@@ -320,7 +279,7 @@ public final class PromisesTest {
         due("paper", x.paper(0, 0, 0), 7);
         due("9th trace", x.paper(0, 0, 0), -1);
         due("9th trace", x.look(0, 0, 0, 0), -1);
-        promise = "9";
+        promise("9");
         due("look 3 to 2", x.look(1, 0, 3, 2), -1);
         due("look to 97", x.look(1, 0, 3, 97), -1);
         due("look from -1", x.look(1, 0, -1, 3), -1);
@@ -328,7 +287,7 @@ public final class PromisesTest {
         due("look", x.look(1, 1, 96, 96), 2);
         due("3rd look", x.look(1, 1, 0, 96), -1);
         due("paper behind", x.paper(1, 1, 5), 3);
-        promise = "26";
+        promise("26");
         due("traces of the first", x.count(3), 8);
         due("traces of the second", x.count(4), 4);
         doubts(x);
@@ -337,7 +296,7 @@ public final class PromisesTest {
     }
 
     private static void doubts(StampTales x) {
-        promise = "10";
+        promise("10");
         due("not doubted", x.doubt(0, 0, false), false);
         due("doubted", x.doubt(0, 0, true), true);
         due("doubted again", x.doubt(0, 0, true), false);
@@ -353,7 +312,7 @@ public final class PromisesTest {
     }
 
     private static void undone(StampTales x) {
-        promise = "11";
+        promise("11");
         due("undo", x.undo(0), 7);
         due("undo", x.undo(0), 6);
         due("a 7th stamp, one is doubted", x.stamp(0, 0, true, 0, 0), -1);
@@ -371,7 +330,7 @@ public final class PromisesTest {
     }
 
     private static void told(StampTales x) {
-        promise = "12";
+        promise("12");
         int[][] links = {{0, 1, 9, 5, 7, 1}, {1, 0, 20, 5, 3, 1}};
         for (int what = -1; what < 8; what++) {
             for (int link = -1; link < 4; link++) {
@@ -384,7 +343,7 @@ public final class PromisesTest {
         for (int what = 0; what < 6; what++) {
             due("sail " + what, sailing.link(0, what), sail[what]);
         }
-        promise = "13";
+        promise("13");
         StampTales clocks = mapped("land a in;land b in;town x of b minus 12;town y of a plus 12;town z of b;");
         int[][] towns = {{1, -12}, {0, 12}, {1, 0}};
         for (int what = -1; what < 4; what++) {
@@ -393,7 +352,7 @@ public final class PromisesTest {
                 due("town " + town + " " + what, clocks.town(town, what), is ? towns[town][what] : -99);
             }
         }
-        promise = "14";
+        promise("14");
         StampTales y = mapped(THERE_AND_BACK);
         y.stamp(0, 1, true, -1, 5);
         y.stamp(0, 0, false, 2, 3);
@@ -424,7 +383,7 @@ public final class PromisesTest {
     }
 
     private static void waysCounted() {
-        promise = "15";
+        promise("15");
         due("40 links", mapped(fibonacci(10, 0)).ways(0), 267914296);
         due("42 links", mapped(fibonacci(10, 2)).ways(1), 701408733);
         due("43 links", mapped(fibonacci(10, 3)).ways(0), 1000000000);
@@ -529,42 +488,42 @@ public final class PromisesTest {
     }
 
     private static void places() {
-        promise = "16";
+        promise("16");
         StampTales x = mapped(INLAND + "sail x y at 10 for 5 cost 0;");
         int[] hours = {0, 10, 11, 14, 15, 96};
         int[] may = {1, 1, 257, 257, 3, 3};
         int[] surely = {0, 0, -1, -1, -1, -1};
         for (int i = 0; i < 6; i++) {
             due("may " + hours[i], x.may(0, hours[i]), may[i]);
-            promise = "17";
+            promise("17");
             due("surely " + hours[i], x.surely(0, hours[i]), surely[i]);
-            promise = "16";
+            promise("16");
         }
         for (int odd : new int[] {-1, 97, Integer.MAX_VALUE, Integer.MIN_VALUE}) {
             due("may " + odd, x.may(0, odd), -1);
             due("may of " + odd, x.may(odd, 0), -1);
-            promise = "17";
+            promise("17");
             due("surely " + odd, x.surely(0, odd), -1);
             due("surely of " + odd, x.surely(odd, 0), -1);
-            promise = "16";
+            promise("16");
         }
         x.man(0, 0, 0, 15);
         due("may at the end", x.may(0, 15), 3);
         due("may behind the end", x.may(0, 16), -1);
         x.paper(0, 1, 15);
         due("may", x.may(0, 12), 256);
-        promise = "17";
+        promise("17");
         due("surely under way is no town", x.surely(0, 12), -1);
         due("surely", x.surely(0, 15), 1);
         due("surely behind the end", x.surely(0, 16), -1);
         x.paper(0, 1, 14);
         due("no way", x.surely(0, 0), -1);
-        promise = "16";
+        promise("16");
         due("no way", x.may(0, 0), 0);
     }
 
     private static void extremes() {
-        promise = "18";
+        promise("18");
         StampTales x = mapped("land a none;town x of a;town y of a;town z of a;sail x z at 5 for 20 cost 50;"
             + "sail x y at 5 for 4 cost 60;sail y z at 9 for 16 cost 20;sail y x at 40 for 1 cost 1;sail z y at 30 for 2 cost 9;");
         x.paper(0, 2, 25);
@@ -580,7 +539,7 @@ public final class PromisesTest {
         for (int what = 0; what < 4; what++) {
             due("no way " + what, x.extreme(0, what), -1);
         }
-        promise = "19";
+        promise("19");
         x.undo(0);
         due("tale", x.tale(0, -1), 1);
         due("tale 0", x.tale(0, 0), 5);
@@ -608,7 +567,7 @@ public final class PromisesTest {
     }
 
     private static void doubting() {
-        promise = "20";
+        promise("20");
         StampTales x = mapped(THERE_AND_BACK);
         due("no trace", x.toDoubt(0), 0);
         x.paper(0, 0, 1);
@@ -635,7 +594,7 @@ public final class PromisesTest {
         x.look(1, 1, 14, 96);
         due("all of them", x.toDoubt(1), 7);
         doubtingPapers();
-        promise = "21";
+        promise("21");
         due("no trace gives it", x.away(1), -1);
         due("doubted ones do not count", x.away(0), -1);
         due("man 2", x.away(2), -1);
@@ -673,7 +632,7 @@ public final class PromisesTest {
     }
 
     private static void meeting() {
-        promise = "22";
+        promise("22");
         StampTales x = mapped(THERE_AND_BACK);
         x.man(1, 1, 0, 50);
         x.stamp(0, 0, true, 0, 0);
@@ -705,7 +664,7 @@ public final class PromisesTest {
     }
 
     private static void legs() {
-        promise = "23";
+        promise("23");
         StampTales x = mapped(THERE_AND_BACK);
         for (int odd : ODD) {
             due("link " + odd, x.leg(odd, 0), -1);
@@ -718,13 +677,13 @@ public final class PromisesTest {
             due("leg " + i, x.leg(i % 2, i == 20 ? 96 : 0), i);
         }
         due("21st leg", x.leg(0, 9), -1);
-        promise = "26";
+        promise("26");
         due("legs", x.count(5), 20);
-        promise = "24";
+        promise("24");
         due("forget", x.forget(), 20);
         due("forget again", x.forget(), 0);
         due("legs", x.count(5), 0);
-        promise = "23";
+        promise("23");
         due("leg behind", x.leg(0, 9), 1);
     }
 
@@ -736,7 +695,7 @@ public final class PromisesTest {
     }
 
     private static void bars() {
-        promise = "25";
+        promise("25");
         StampTales x = mapped(THERE_AND_BACK + "sail x y at 30 for 2 cost 0;run x y at 0 for 5 cost 0;");
         due("man 2", x.barred(2), -1);
         due("man -1", x.barred(-1), -1);
@@ -840,7 +799,7 @@ public final class PromisesTest {
     }
 
     private static void counts() {
-        promise = "26";
+        promise("26");
         StampTales x = mapped(THERE_AND_BACK);
         x.feed(0, 0, 0, 0, 0);
         x.paper(0, 0, 0);
@@ -876,9 +835,6 @@ public final class PromisesTest {
         legs();
         bars();
         counts();
-        System.out.println("PromisesTest: " + asked + " answers, " + wrong + " not as due");
-        if (wrong != 0) {
-            System.exit(1);
-        }
+        report("PromisesTest", "");
     }
 }

@@ -6,20 +6,8 @@ import java.util.Random;
  * Promises 6 to 11 and 15 to 25 against an oracle that goes every single way, hour by hour, and looks at each trace of
  * it as the document's words say. The maps are drawn from fixed seeds.
  */
-public final class WaysTest {
+public final class WaysTest extends Checks {
     private static final int MOST_WAYS = 4000;
-    private static int wrong = 0;
-    private static int asked = 0;
-
-    private static void due(String call, long got, long want) {
-        asked++;
-        if (got != want) {
-            wrong++;
-            if (wrong < 40) {
-                System.out.println(call + " answered " + got + ", due is " + want);
-            }
-        }
-    }
 
     private record Land(int how) { }
 
@@ -222,24 +210,6 @@ public final class WaysTest {
             links.add(new Link(a, b, daily, daily ? r.nextInt(24) : r.nextInt(96), lasts, r.nextInt(6)));
         }
         return new World(lands, towns, links);
-    }
-
-    private static void feed(StampTales x, String text) {
-        byte[] bytes = new byte[(text.length() + 19) / 20 * 20];
-        for (int i = 0; i < text.length(); i++) {
-            bytes[i] = (byte) text.charAt(i);
-        }
-        int[] five = new int[5];
-        for (int i = 0; i < bytes.length; i += 20) {
-            for (int j = 0; j < 5; j++) {
-                five[j] = 0;
-                for (int b = 0; b < 4; b++) {
-                    five[j] = five[j] << 8 | bytes[i + 4 * j + b] & 255;
-                }
-            }
-            x.feed(five[0], five[1], five[2], five[3], five[4]);
-        }
-        x.end(text.length());
     }
 
     /** Traces that a real way left, some of them blurred, some of them spoilt. */
@@ -487,7 +457,6 @@ public final class WaysTest {
         if (text.length() > 500) {
             return false;
         }
-        x.end(0);
         feed(x, text);
         due(name + " map", x.map(), world.towns.size());
         for (int man = 0; man < 2; man++) {
@@ -519,9 +488,7 @@ public final class WaysTest {
                 tried++;
             }
         }
-        System.out.println("WaysTest: " + tried + " maps, " + asked + " answers, " + wrong + " not as due");
-        if (wrong != 0 || tried < seeds / 2) {
-            System.exit(1);
-        }
+        due("whether most maps were tried", tried >= seeds / 2, true);
+        report("WaysTest", tried + " maps, ");
     }
 }
