@@ -6,8 +6,8 @@ public final class MapEdgesTest extends Checks {
     private static final String LAND = "land a in;";
     private static final String ONE = "land a in;town x of a;";
     private static final String TWO = ONE + "town y of a;";
-    private static final String[] KEPT = {"land", "town", "in", "out", "both", "none", "of", "plus", "minus", "run", "sail",
-        "at", "for", "cost"};
+    private static final String[] KEPT = {"land", "town", "in", "out", "both", "none", "of", "plus", "minus", "run",
+        "sail", "at", "for", "cost"};
 
     /** The FAULT of a text that goes on behind the two towns x and y, counted from there. */
     private static int behindTwo(String more) {
@@ -54,8 +54,8 @@ public final class MapEdgesTest extends Checks {
     }
 
     private static void everyByte() {
-        sentence("Terms 1", "TOKENS: words of small letters, numbers of digits, as long as can be, and ; with any blanks "
-            + "(32) and line ends (10) between.");
+        sentence("Terms 1", "TOKENS: words of small letters, numbers of digits, as long as can be, and ; with any "
+            + "blanks (32) and line ends (10) between.");
         for (int b = 0; b < 256; b++) {
             char c = (char) b;
             int name = isLetter(b) && b != 'a' && b != 'x' && b != 'y' ? -1 : isBetween(b) ? 7 : 5;
@@ -121,7 +121,8 @@ public final class MapEdgesTest extends Checks {
         sentence("Terms 1", "at most 8 TOWNS, numbers as they come");
         StringBuilder eight = new StringBuilder("land a in;land b in;");
         for (int i = 0; i < 8; i++) {
-            eight.append("town ").append((char) ('z' - i)).append(i % 3 == 0 ? " of b" : " of a").append(" plus ").append(i).append(";");
+            eight.append("town ").append((char) ('z' - i)).append(i % 3 == 0 ? " of b" : " of a").append(" plus ")
+                .append(i).append(";");
         }
         x = mapped(eight + "run s z at 1 for 1 cost 1;");
         due("towns", x.count(1), 8);
@@ -206,8 +207,8 @@ public final class MapEdgesTest extends Checks {
     }
 
     private static void names() {
-        sentence("Terms 1", "NAMES N are words of at most 8 letters but: land town in out both none of plus minus run sail at "
-            + "for cost; all of LANDS and TOWNS are unlike.");
+        sentence("Terms 1", "NAMES N are words of at most 8 letters but: land town in out both none of plus minus "
+            + "run sail at for cost; all of LANDS and TOWNS are unlike.");
         due("8 letters of a land", faultOf("land zzzzzzzz in;town x of zzzzzzzz;"), -1);
         due("9 letters of a land", faultOf("land zzzzzzzzz in;"), 5);
         due("8 letters of a town", behindTwo("town zzzzzzzz of a;run zzzzzzzz x at 1 for 1 cost 1;"), -1);
@@ -222,19 +223,50 @@ public final class MapEdgesTest extends Checks {
             String longer = kept + "s";
             String shorter = kept.substring(1);
             due("land " + longer, faultOf("land " + longer + " in;town x of " + longer + ";"), -1);
-            boolean isNew = !shorter.equals("a") && !java.util.Arrays.asList(KEPT).contains(shorter);
-            due("land " + shorter, faultOf("land " + shorter + " in;town a of " + shorter + ";"), isNew ? -1 : shorter.equals("a") ? 15 : 5);
+            due("land " + shorter, faultOf("land " + shorter + " in;town a of " + shorter + ";"), -1);
         }
-        due("unlike in the last of 8 letters", faultOf("land abcdefgh in;land abcdefgi in;town abcdefgj of abcdefgi;"), -1);
-        due("unlike in the first of 8 letters", faultOf("land abcdefgh in;land bbcdefgh in;town cbcdefgh of bbcdefgh;"), -1);
+        due("unlike in the last of 8 letters", faultOf("land abcdefgh in;land abcdefgi in;"
+            + "town abcdefgj of abcdefgi;"), -1);
+        due("unlike in the first of 8 letters", faultOf("land abcdefgh in;land bbcdefgh in;"
+            + "town cbcdefgh of bbcdefgh;"), -1);
         due("one letter more", faultOf("land a in;land aa in;town aaa of aa;"), -1);
         due("9 letters, of which 8 are a land", faultOf("land abcdefgh in;town x of abcdefghi;"), 27);
         due("9 letters, of which the last 8 are a land", faultOf("land abcdefgh in;town x of zabcdefgh;"), 27);
     }
 
+    private static void forms() {
+        sentence("Terms 1", "land N HOW ;");
+        formIs("land q both ;");
+        sentence("Terms 1", "town N of N ; or town N of N plus Z ; or town N of N minus Z ;");
+        formIs("town q of a ;");
+        formIs("town q of a plus 3 ;");
+        formIs("town q of a minus 3 ;");
+        sentence("Terms 1", "run N N at H for D cost P ;");
+        formIs("run x y at 4 for 5 cost 6 ;");
+        sentence("Terms 1", "or sail N N at H for D cost P ;");
+        formIs("sail x y at 4 for 5 cost 6 ;");
+    }
+
+    /** A form stands as it is; but none of its tokens may lack, nor stand twice. */
+    private static void formIs(String form) {
+        due(form, behindTwo(form), -1);
+        due(form + " twice", behindTwo(form + form.replace('q', 'p')), -1);
+        int place = 0;
+        for (String token : form.split(" ")) {
+            int next = place + token.length();
+            String twice = form.substring(0, next) + " " + token + form.substring(next);
+            due(twice, behindTwo(twice), next + 1);
+            String without = form.substring(0, place) + form.substring(Math.min(next + 1, form.length()));
+            due(without + " has a fault, not ahead of what lacks", behindTwo(without) >= place, true);
+            place = next + 1;
+        }
+    }
+
     private static void faultOfEachToken() {
-        sentence("Terms 1", "The FAULT is the place (from 0 on) of the first byte of the first TOKEN that can't stand there");
-        String text = "land a in ; town x of a plus 3 ; town y of a ; run x y at 4 for 5 cost 6 ; sail y x at 7 for 8 cost 9 ;";
+        sentence("Terms 1", "The FAULT is the place (from 0 on) of the first byte of the first TOKEN that can't "
+            + "stand there");
+        String text = "land a in ; town x of a plus 3 ; town y of a ; run x y at 4 for 5 cost 6 ;"
+            + " sail y x at 7 for 8 cost 9 ;";
         String[] tokens = text.split(" ");
         int place = 0;
         for (int i = 0; i < tokens.length; i++) {
@@ -246,7 +278,8 @@ public final class MapEdgesTest extends Checks {
                 row[i] = other;
                 due("token " + i + " is " + other, faultOf(String.join(" ", row)), place);
                 row[tokens.length - 1] = "?";
-                due("token " + i + " is " + other + ", with another fault behind", faultOf(String.join(" ", row)), place);
+                due("token " + i + " is " + other + ", with another fault behind", faultOf(String.join(" ", row)),
+                    place);
             }
             boolean isWhole = i == 11 || i == 16 || i == 26;
             due("all ahead of token " + i, faultOf(text.substring(0, place)), isWhole ? -1 : place);
@@ -258,8 +291,12 @@ public final class MapEdgesTest extends Checks {
     }
 
     private static void faultOfNames() {
-        sentence("Terms 1", "a NAME that is told already, or isn't (a TOWN's where a LAND must be, and the other way round), "
-            + "the same TOWN twice in a LINK");
+        sentence("Terms 1", "(also: a number that can't be, a NAME that is told already, or isn't (a TOWN's where a "
+            + "LAND must be, and the other way round), the same TOWN twice in a LINK;");
+        due("a clock that can't be", behindTwo("town q of a plus 13;"), 17);
+        due("an hour that can't be", behindTwo("run x y at 24 for 49 cost 100;"), 11);
+        due("a time that can't be", behindTwo("run x y at 23 for 49 cost 100;"), 18);
+        due("a cost that can't be", behindTwo("run x y at 23 for 48 cost 100;"), 26);
         due("a land like a land", faultOf("land a in;land a out;"), 15);
         due("a land like a town", behindTwo("land x in;"), 5);
         due("a town like a land", behindTwo("town a of a;"), 5);
@@ -300,7 +337,8 @@ public final class MapEdgesTest extends Checks {
 
     private static void takesThePlace() {
         sentence("Terms 1", "A MAP without one takes the place of the one ahead");
-        StampTales x = mapped("land c in;land d out;town p of d plus 5;town q of c;run p q at 1 for 2 cost 3;sail q p at 4 for 5 cost 6;");
+        StampTales x = mapped("land c in;land d out;town p of d plus 5;town q of c;run p q at 1 for 2 cost 3;"
+            + "sail q p at 4 for 5 cost 6;");
         feed(x, "town x of c;");
         due("a land of the one ahead is not told", x.fault(), 10);
         feed(x, ONE + "run q x at 1 for 1 cost 1;");
@@ -320,7 +358,8 @@ public final class MapEdgesTest extends Checks {
         due("no stamp by its second land", x.stamp(0, 1, true, 0, 0), -1);
         due("no paper in its second town", x.paper(0, 1, 0), -1);
         due("no look in its second town", x.look(0, 1, 0, 0), -1);
-        sentence("Terms 1", "both MEN have no TRACES, are at TOWN 0 at first, need no SLEEP, and their END is 96; nothing is told.");
+        sentence("Terms 1", "both MEN have no TRACES, are at TOWN 0 at first, need no SLEEP, and their END is 96; "
+            + "nothing is told.");
         String night = TWO + "run x y at 0 for 8 cost 1;sail x y at 95 for 1 cost 1;";
         x = mapped(night);
         menAreNew(x);
@@ -353,7 +392,10 @@ public final class MapEdgesTest extends Checks {
     }
 
     private static void noMap() {
-        sentence("promise 1", "`StampTales()`: No MAP.");
+        sentence("Terms 4", "The constants: `NONE = -1`: There is none.");
+        due("NONE", StampTales.NONE, -1);
+        due("no fault", faultOf(ONE), StampTales.NONE);
+        sentence("promise 1", "No MAP.");
         StampTales x = new StampTales();
         for (int i = 0; i < 6; i++) {
             due("count " + i, x.count(i), 0);
@@ -394,7 +436,8 @@ public final class MapEdgesTest extends Checks {
     }
 
     private static void feeding() {
-        sentence("promise 2", "Bytes come behind those of the text, of each number the highest first (20 of them): how many there are");
+        sentence("promise 2", "Bytes come behind those of the text, of each number the highest first (20 of them): "
+            + "how many there are");
         StampTales x = new StampTales();
         String text = "land abc in;town defg of abc plus 7;";
         due("the first 20", feedFrom(x, text, 0), 20);
@@ -423,7 +466,8 @@ public final class MapEdgesTest extends Checks {
     }
 
     private static void ending() {
-        sentence("promise 3", "The text has its first n bytes alone: true; false if it has not so many, or n is below 0.");
+        sentence("promise 3", "The text has its first n bytes alone: true; false if it has not so many, or n is "
+            + "below 0.");
         StampTales x = new StampTales();
         due("none of none", x.end(0), true);
         due("one of none", x.end(1), false);
@@ -464,7 +508,8 @@ public final class MapEdgesTest extends Checks {
             due("asked again and again", x.fault(), 25);
         }
         due("it makes no map", x.ways(0), -1);
-        sentence("promise 5", "The MAP comes of the text, which is empty then: how many TOWNS; NONE with a FAULT (it stays).");
+        sentence("promise 5", "The MAP comes of the text, which is empty then: how many TOWNS; NONE with a FAULT (it "
+            + "stays).");
         due("with a fault", x.map(), -1);
         due("the text stays", x.count(6), 25);
         due("so does its fault", x.fault(), 25);
@@ -484,8 +529,8 @@ public final class MapEdgesTest extends Checks {
     }
 
     private static void askedOfLinks() {
-        sentence("promise 12", "0 and 1 its TOWNS, 2 the hour, 3 D, 4 P, 5 whether it leaves each day. NONE for others, or if "
-            + "there is none such.");
+        sentence("promise 12", "Of a LINK: 0 and 1 its TOWNS, 2 the hour, 3 D, 4 P, 5 whether it leaves each day. "
+            + "NONE for others, or if there is none such.");
         StampTales x = mapped(TWO + "sail y x at 95 for 48 cost 99;run x y at 23 for 1 cost 0;");
         int[][] want = {{1, 0, 95, 48, 99, 0}, {0, 1, 23, 1, 0, 1}};
         for (int link = 0; link < 2; link++) {
@@ -502,7 +547,8 @@ public final class MapEdgesTest extends Checks {
         StampTales full = mapped(TWO + links(16));
         due("link 15", full.link(15, 2), 15);
         due("link 16", full.link(16, 2), -1);
-        sentence("promise 13", "0 its LAND, 1 Z (below 0: behind); -99 for others, or if there is none such.");
+        sentence("promise 13", "Of a TOWN: 0 its LAND, 1 Z (below 0: behind); -99 for others, or if there is none "
+            + "such.");
         StampTales y = mapped("land a in;land b in;town x of b minus 12;town y of a plus 12;");
         int[][] towns = {{1, -12}, {0, 12}};
         for (int i = 0; i < 4; i++) {
@@ -523,6 +569,7 @@ public final class MapEdgesTest extends Checks {
         clocks();
         linkNumbers();
         names();
+        forms();
         faultOfEachToken();
         faultOfNames();
         faultOfBytes();

@@ -687,13 +687,6 @@ public final class PromisesTest extends Checks {
         due("leg behind", x.leg(0, 9), 1);
     }
 
-    private static void tell(StampTales x, int... legs) {
-        x.forget();
-        for (int i = 0; i + 1 < legs.length; i += 2) {
-            x.leg(legs[i], legs[i + 1]);
-        }
-    }
-
     private static void bars() {
         promise("25");
         StampTales x = mapped(THERE_AND_BACK + "sail x y at 30 for 2 cost 0;run x y at 0 for 5 cost 0;");

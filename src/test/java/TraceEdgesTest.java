@@ -46,7 +46,8 @@ public final class TraceEdgesTest extends Checks {
             due("away of " + man, x.away(man), -1);
             due("barred of " + man, x.barred(man), is ? 0 : -1);
         }
-        sentence("promise 6", "A man's HOME, SLEEP and END (1 .. 96): true; false if there is no MAP, or they can't be.");
+        sentence("promise 6", "A man's HOME, SLEEP and END (1 .. 96): true; false if there is no MAP, or they can't "
+            + "be.");
         for (int n = -2; n <= 100; n++) {
             due("home " + n, fresh().man(1, n, 0, 96), n >= 0 && n < 3);
             due("sleep " + n, fresh().man(1, 0, n, 96), n >= 0 && n <= 4);
@@ -78,8 +79,8 @@ public final class TraceEdgesTest extends Checks {
     }
 
     private static void stamps() {
-        sentence("promise 7", "A STAMP (out, else IN): its number among TRACES; NONE if there is none such, DAYS can't be, he "
-            + "has 6, or 8 TRACES.");
+        sentence("promise 7", "A STAMP (out, else IN): its number among TRACES; NONE if there is none such, DAYS "
+            + "can't be, he has 6, or 8 TRACES.");
         for (int from = -4; from <= 8; from++) {
             for (int to = -4; to <= 8; to++) {
                 boolean can = from >= -1 && from <= to && to <= 5;
@@ -164,9 +165,9 @@ public final class TraceEdgesTest extends Checks {
     }
 
     private static void numbersAsTheyCome() {
-        sentence("Terms 2", "TRACES have numbers as they come, at most 8 a man: STAMPS: a LAND, IN or OUT, and two DAYS (-1 .. "
-            + "5, the second no less), at most 6; PAPERS: a TOWN and an hour (0 .. 96); LOOKS: a TOWN and two hours (the second no "
-            + "less), at most 2.");
+        sentence("Terms 2", "TRACES have numbers as they come, at most 8 a man: STAMPS: a LAND, IN or OUT, and two "
+            + "DAYS (-1 .. 5, the second no less), at most 6; PAPERS: a TOWN and an hour (0 .. 96); LOOKS: a TOWN "
+            + "and two hours (the second no less), at most 2.");
         StampTales x = fresh();
         due("paper", x.paper(0, 1, 96), 0);
         for (int i = 1; i <= 5; i++) {
@@ -183,9 +184,9 @@ public final class TraceEdgesTest extends Checks {
                 due("trace " + trace + " " + what, x.trace(0, trace, what), want[trace][what]);
             }
         }
-        sentence("promise 14", "0 its kind (0 STAMP, 1 PAPER, 2 LOOK), 1 the LAND or TOWN, 2 the first DAY or hour, 3 the "
-            + "second (of a PAPER the same), 4 whether OUT (0 of others), 5 whether it is DOUBTED; -99 for others, or if there is none "
-            + "such.");
+        sentence("promise 14", "Of a TRACE: 0 its kind (0 STAMP, 1 PAPER, 2 LOOK), 1 the LAND or TOWN, 2 the first "
+            + "DAY or hour, 3 the second (of a PAPER the same), 4 whether OUT (0 of others), 5 whether it is "
+            + "DOUBTED; -99 for others, or if there is none such.");
         for (int other : new int[] {-2, -1, 6, 7, 8, 9, Integer.MIN_VALUE, Integer.MAX_VALUE}) {
             due("trace 0 " + other, x.trace(0, 0, other), -99);
             if (other < 0 || other > 7) {
@@ -201,7 +202,8 @@ public final class TraceEdgesTest extends Checks {
     }
 
     private static void doubts() {
-        sentence("promise 10", "A TRACE is DOUBTED, or no more: true; false if there is none such, or it is so already.");
+        sentence("promise 10", "A TRACE is DOUBTED, or no more: true; false if there is none such, or it is so "
+            + "already.");
         StampTales x = withPapers(8);
         for (int trace = 0; trace < 8; trace++) {
             due("not doubted " + trace, x.doubt(0, trace, false), false);

@@ -41,7 +41,8 @@ abstract class Checks {
         if (got != want) {
             wrong++;
             if (wrong <= MOST_PRINTED) {
-                System.out.println((part.isEmpty() ? "" : part + ": ") + call + " answered " + got + ", due is " + want);
+                String where = part.isEmpty() ? "" : part + ": ";
+                System.out.println(where + call + " answered " + got + ", due is " + want);
             }
         }
     }
@@ -80,6 +81,14 @@ abstract class Checks {
         StampTales x = new StampTales();
         feed(x, text);
         return x.fault();
+    }
+
+    /** Legs take the place of those that were told: a link and an hour each. */
+    static void tell(StampTales x, int... legs) {
+        x.forget();
+        for (int i = 0; i + 1 < legs.length; i += 2) {
+            due("leg", x.leg(legs[i], legs[i + 1]), i / 2 + 1);
+        }
     }
 
     /** Tells what was asked, and ends with 1 if an answer was not as due. */
