@@ -41,6 +41,10 @@ public final class FindingEdgesTest extends Checks {
         due("more ways than are told, and of them those that fit", x.ways(0) > 1 && x.ways(0) < 1000000000, true);
         x.man(1, 2, 0, 96);
         due("the other has one", x.ways(1), 1);
+        for (int hour : new int[] {0, 1, 50, 96}) {
+            due("many ways go on from where he can't be, at " + hour, x.may(1, hour), 4);
+            due("many ways go on from where he can't be, at " + hour, x.surely(1, hour), 2);
+        }
         StringBuilder all = new StringBuilder(INLAND);
         for (int i = 0; i < 16; i++) {
             all.append(i % 2 == 0 ? "run x y at" : "run y x at").append(i).append("for1cost99;");
@@ -244,6 +248,12 @@ public final class FindingEdgesTest extends Checks {
             + "sail y z at 12 for 1 cost 2;"), 9, 218);
         taleIs("the first hour counts, not the last", comeTo(1, 20, INLAND + "sail x y at 6 for 9 cost 0;"
             + "sail x y at 5 for 1 cost 0;sail y x at 7 for 1 cost 0;"), 6);
+        StampTales seen = comeTo(1, 20, INLAND + "sail x y at 1 for 1 cost 1;sail x y at 10 for 5 cost 2;");
+        seen.look(0, 0, 3, 4);
+        taleIs("seen at home first", seen, 110);
+        StampTales asleep = comeTo(1, 20, INLAND + "sail x y at 3 for 9 cost 1;sail x y at 4 for 9 cost 1;");
+        asleep.man(0, 0, 4, 96);
+        taleIs("asleep at home first", asleep, 104);
         taleIs("links that cost nothing are not taken for nothing", comeTo(1, 20, INLAND + "run x y at 5 for 1 cost 0;"
             + "run y x at 8 for 1 cost 0;"), 5);
     }
@@ -324,6 +334,9 @@ public final class FindingEdgesTest extends Checks {
         due("the least of like ones", papers(text, 0, 20, 1, 20, 1, 20, 0, 20).toDoubt(0), 6);
         due("the first of two", papers(text, 0, 20, 1, 20).toDoubt(0), 1);
         due("the first of two", papers(text, 1, 20, 0, 20).toDoubt(0), 1);
+        due("those of two hours under way", papers(text, 1, 20, 0, 11, 1, 30, 0, 14, 1, 40).toDoubt(0), 10);
+        due("two of one hour under way", papers(text, 1, 20, 1, 30, 0, 12, 0, 12, 1, 40).toDoubt(0), 12);
+        due("two of one hour in a town", papers(text, 0, 20, 1, 3, 1, 3).toDoubt(0), 6);
         due("all", papers(text, 1, 1, 1, 2, 1, 3, 1, 4, 1, 5, 1, 6, 1, 7, 1, 8).toDoubt(0), 255);
         StampTales x = papers(text, 0, 20, 1, 20, 1, 30, 0, 12);
         due("those of x", x.toDoubt(0), 6);
@@ -367,6 +380,12 @@ public final class FindingEdgesTest extends Checks {
         due("ahead of, between and behind the stamps of one crossing", y.toDoubt(0), 13);
         y.man(0, 1, 0, 96);
         due("from the other home", y.toDoubt(0), 31);
+        StampTales back = mapped(BORDER);
+        back.man(0, 1, 0, 96);
+        back.stamp(0, 1, true, 0, 0);
+        back.stamp(0, 1, false, 0, 0);
+        back.stamp(0, 0, false, 1, 1);
+        due("between the stamps of a crossing into land 0", back.toDoubt(0), 2);
     }
 
     private static void askedToDoubt() {

@@ -39,6 +39,10 @@ public final class MapEdgesTest extends Checks {
         due("500 bytes that end too early", x.fault(), 500);
         feed(x, filled(LAND, 500));
         due("500 bytes without a town", x.fault(), 500);
+        feed(x, filled(ONE, 496) + "town");
+        due("500 bytes up to a letter", x.fault(), 500);
+        feed(x, filled(LAND + "town x of a plus", 499) + "7");
+        due("500 bytes up to a digit", x.fault(), 500);
     }
 
     private static boolean isLetter(int b) {
@@ -230,6 +234,14 @@ public final class MapEdgesTest extends Checks {
         due("unlike in the first of 8 letters", faultOf("land abcdefgh in;land bbcdefgh in;"
             + "town cbcdefgh of bbcdefgh;"), -1);
         due("one letter more", faultOf("land a in;land aa in;town aaa of aa;"), -1);
+        String[] like = "a b z aa ab ba bb az za zz aab aba baa abc cba zaa".split(" ");
+        for (String one : like) {
+            for (String other : like) {
+                String first = "land " + one + " in;";
+                int want = one.equals(other) ? first.length() + 5 : -1;
+                due(one + " and " + other, faultOf(first + "land " + other + " in;town t of " + other + ";"), want);
+            }
+        }
         due("9 letters, of which 8 are a land", faultOf("land abcdefgh in;town x of abcdefghi;"), 27);
         due("9 letters, of which the last 8 are a land", faultOf("land abcdefgh in;town x of zabcdefgh;"), 27);
     }
@@ -491,6 +503,13 @@ public final class MapEdgesTest extends Checks {
         due("0 of 21", x.end(0), true);
         due("1 of 0", x.end(1), false);
         due("500 of 500", fullText().end(500), true);
+        String text = TWO + "run xyz y at 2345 for 1 cost 1;";
+        feed(x, text);
+        x.end(TWO.length() + 5);
+        due("cut inside a word, which is x now", x.fault(), TWO.length() + 5);
+        feed(x, text.replace("xyz", "x"));
+        x.end(TWO.length() + 12);
+        due("cut inside a number, which is 2 now", x.fault(), TWO.length() + 12);
         due("501 of 500", fullText().end(501), false);
     }
 

@@ -278,6 +278,7 @@ public final class RefusedTest extends Checks {
             StampTales twice = state.make();
             all(twice);
             due(name + ": asked twice", all(twice).equals(before), true);
+            inAnyOrder(state);
             for (Refused call : state.refused) {
                 refuse(state, call, before, onward);
             }
@@ -286,6 +287,28 @@ public final class RefusedTest extends Checks {
                 due(name + ", one behind the other: " + call.name, call.call.applyAsInt(many), call.answer);
             }
             due(name + ": all of them change nothing", all(many).equals(before), true);
+        }
+    }
+
+    /** Each question alone of a new object, and all of one object, in their order and in the other. */
+    private static void inAnyOrder(State state) {
+        List<ToIntFunction<StampTales>> asked = new ArrayList<>();
+        for (int i = 0; i < 2; i++) {
+            int man = i;
+            asked.addAll(List.of(x -> x.ways(man), x -> x.may(man, 12), x -> x.surely(man, 30), x -> x.extreme(man, 0),
+                x -> x.extreme(man, 1), x -> x.extreme(man, 2), x -> x.extreme(man, 3)));
+            asked.addAll(List.of(x -> x.tale(man, -1), x -> x.tale(man, 0), x -> x.toDoubt(man), x -> x.away(man),
+                x -> x.barred(man), x -> x.met(12, man == 0)));
+        }
+        StampTales forth = state.make();
+        StampTales back = state.make();
+        int[] alone = new int[asked.size()];
+        for (int i = 0; i < alone.length; i++) {
+            alone[i] = asked.get(i).applyAsInt(state.make());
+            due(state.name + ", question " + i, asked.get(i).applyAsInt(forth), alone[i]);
+        }
+        for (int i = alone.length - 1; i >= 0; i--) {
+            due(state.name + ", question " + i + " backwards", asked.get(i).applyAsInt(back), alone[i]);
         }
     }
 

@@ -240,6 +240,10 @@ public final class TraceEdgesTest extends Checks {
             due("undo of " + man, x.undo(man), -1);
         }
         due("the first number again", x.paper(0, 1, 1), 0);
+        due("no way fits with it", x.ways(0), 0);
+        due("it is gone", x.undo(0), 0);
+        due("it counts no more", x.ways(0), 1);
+        due("nor for what is told", x.barred(0), 0);
         x = withStamps(6);
         x.doubt(0, 5, true);
         due("undo of the 6th stamp", x.undo(0), 5);

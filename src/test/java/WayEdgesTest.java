@@ -326,6 +326,15 @@ public final class WayEdgesTest extends Checks {
         x.look(0, 0, 5, 8);
         due("one hour for both", x.ways(0), 2);
         x.undo(0);
+        x.undo(0);
+        x.look(0, 1, 15, 15);
+        x.look(0, 1, 15, 15);
+        due("one hour alone for both", x.ways(0), 1);
+        x.undo(0);
+        x.undo(0);
+        x.look(0, 0, 8, 12);
+        x.look(0, 0, 5, 8);
+        x.undo(0);
         x.look(0, 1, 15, 30);
         due("both of them", x.ways(0), 1);
         x.undo(0);
