@@ -298,7 +298,10 @@ public final class StampTales {
             System.arraycopy(other.hour, 0, hour, 0, MOST_LINKS);
             System.arraycopy(other.lasts, 0, lasts, 0, MOST_LINKS);
             System.arraycopy(other.price, 0, price, 0, MOST_LINKS);
-            System.arraycopy(other.daily, 0, daily, 0, MOST_LINKS);
+            // LANGUAGE.md lets arraycopy be read as one over numbers alone, so these go one by one.
+            for (int k = 0; k < MOST_LINKS; k++) {
+                daily[k] = other.daily[k];
+            }
             System.arraycopy(other.outLand, 0, outLand, 0, MOST_LINKS);
             System.arraycopy(other.inLand, 0, inLand, 0, MOST_LINKS);
         }
